@@ -280,7 +280,10 @@ public final class GlassRopes {
         if (column != now.ropes.column[rope]) {
             ahead.ropes.rehang(rope, column);
         }
-        ahead.goOn(days, windows, feasts);
+        // Not by goOn: calls shall not stand open deeper than they must.
+        for (int gone = 0; gone < days; gone++) {
+            ahead.goOneDay(windows, feasts);
+        }
         return ahead.coins;
     }
 

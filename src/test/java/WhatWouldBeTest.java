@@ -13,6 +13,7 @@ public final class WhatWouldBeTest {
         adviseTakesTheSmallest();
         adviseAtItsOwnColumnGoesOn();
         adviseLetsTheOthersWork();
+        adviseEndsBehindTheNextFeast();
         adviseRefuses();
         meanOfAllPanes();
         digestOfANewObject();
@@ -257,6 +258,28 @@ public final class WhatWouldBeTest {
         }
         Due.same("advise(1)", x.advise(1), best);
         Due.same("advise(1) is not where rope 0 hangs", best != 3, true);
+    }
+
+    private static void adviseEndsBehindTheNextFeast() {
+        GlassRopes x = new GlassRopes();
+        x.window(7, 0, 1, 8, 9);
+        x.rope(7, 10, true);
+        x.feast(4, 1);
+        x.feast(4, 2);
+        // The coins of the second feast day count for no column.
+        Due.same("advise(0) at its best column", x.advise(0), 7);
+        x.move(0, 2);
+        Due.same("advise(0) elsewhere", x.advise(0), 7);
+        GlassRopes y = new GlassRopes();
+        y.window(3, 0, 1, 1, 9);
+        y.window(8, 0, 1, 2, 9);
+        y.rope(11, 1, true);
+        y.feast(3, 2);
+        y.pass(2);
+        // The day 2 is a feast day: nobody works before it, and the feast day behind it is too late.
+        Due.same("advise(0) on a feast day", y.advise(0), 0);
+        y.pass(1);
+        Due.same("advise(0) behind the feast day", y.advise(0), 3);
     }
 
     private static void adviseRefuses() {
