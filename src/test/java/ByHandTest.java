@@ -3,14 +3,10 @@ public final class ByHandTest {
     public static void main(String[] args) {
         moveHangsTheRopeElsewhere();
         moveAnywhereThatIsFree();
-        moveRefusesIndexes();
-        moveRefusesTakenColumns();
         turnChangesTheWay();
         turnChangesWhereTheRopeGoes();
-        turnRefusesIndexes();
         wipeCleansJustItsPanes();
         wipeOfSharedPanes();
-        wipeRefusesIndexes();
         Due.end();
     }
 
@@ -37,31 +33,6 @@ public final class ByHandTest {
         Due.same("rope 0", Due.ropeState(x, 0), "0 0 3 0 0 2");
     }
 
-    private static void moveRefusesIndexes() {
-        GlassRopes x = new GlassRopes();
-        Due.refusesIndex(x, "move(0, 1) without ropes", () -> x.move(0, 1));
-        x.rope(5, 3, true);
-        x.rope(7, 3, true);
-        for (int rope : new int[] {-1, 2, 6, Integer.MIN_VALUE, Integer.MAX_VALUE}) {
-            Due.refusesIndex(x, "move(" + rope + ", 1)", () -> x.move(rope, 1));
-            Due.refusesIndex(x, "move(" + rope + ", 5)", () -> x.move(rope, 5));
-        }
-        for (int column : new int[] {-1, 12, Integer.MIN_VALUE, Integer.MAX_VALUE}) {
-            Due.refusesIndex(x, "move(0, " + column + ")", () -> x.move(0, column));
-        }
-    }
-
-    private static void moveRefusesTakenColumns() {
-        GlassRopes x = new GlassRopes();
-        x.rope(5, 6, true);
-        x.rope(7, 6, true);
-        x.pass(1);
-        Due.refusesState(x, "move(0, 7), where rope 1 hangs", () -> x.move(0, 7));
-        Due.refusesState(x, "move(1, 5), where rope 0 hangs", () -> x.move(1, 5));
-        Due.refusesState(x, "move(0, 5), its own column", () -> x.move(0, 5));
-        Due.refusesState(x, "move(1, 7), its own column", () -> x.move(1, 7));
-    }
-
     private static void turnChangesTheWay() {
         GlassRopes x = new GlassRopes();
         x.rope(5, 6, true);
@@ -85,15 +56,6 @@ public final class ByHandTest {
         x.pass(1);
         Due.same("told(0, 0)", x.told(0, 0), 4);
         Due.same("told(1, 0)", x.told(1, 0), 9);
-    }
-
-    private static void turnRefusesIndexes() {
-        GlassRopes x = new GlassRopes();
-        Due.refusesIndex(x, "turn(0) without ropes", () -> x.turn(0));
-        x.rope(5, 6, true);
-        for (int rope : new int[] {-1, 1, 6, Integer.MIN_VALUE, Integer.MAX_VALUE}) {
-            Due.refusesIndex(x, "turn(" + rope + ")", () -> x.turn(rope));
-        }
     }
 
     private static void wipeCleansJustItsPanes() {
@@ -131,15 +93,5 @@ public final class ByHandTest {
         Due.same("about(0, 5)", x.about(0, 5), 1920 - 80);
         Due.same("wipe(0)", x.wipe(0), 1920 - 80);
         Due.same("count(6)", x.count(6), 96);
-    }
-
-    private static void wipeRefusesIndexes() {
-        GlassRopes x = new GlassRopes();
-        x.pass(2);
-        Due.refusesIndex(x, "wipe(0) without windows", () -> x.wipe(0));
-        x.window(0, 0, 12, 8, 1);
-        for (int window : new int[] {-1, 1, 6, Integer.MIN_VALUE, Integer.MAX_VALUE}) {
-            Due.refusesIndex(x, "wipe(" + window + ")", () -> x.wipe(window));
-        }
     }
 }

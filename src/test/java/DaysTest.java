@@ -2,7 +2,6 @@
 public final class DaysTest {
     public static void main(String[] args) {
         passCountsDays();
-        passRefusesArguments();
         passAnswersTheCoinsOfItsDays();
         manyDaysAreAsManySingleOnes();
         sootStopsAtTwenty();
@@ -28,15 +27,6 @@ public final class DaysTest {
         Due.same("count(0)", x.count(0), 1);
         x.pass(40);
         Due.same("count(0)", x.count(0), 41);
-    }
-
-    private static void passRefusesArguments() {
-        GlassRopes x = new GlassRopes();
-        x.rope(2, 9, true);
-        x.pass(3);
-        for (int days : new int[] {0, 41, -1, Integer.MIN_VALUE, Integer.MAX_VALUE}) {
-            Due.refusesArgument(x, "pass(" + days + ")", () -> x.pass(days));
-        }
     }
 
     private static void passAnswersTheCoinsOfItsDays() {

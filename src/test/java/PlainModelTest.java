@@ -4,7 +4,8 @@ import java.util.List;
 /** Long runs of calls, the same at each time, whose answers a second, slower model of the document tells. */
 public final class PlainModelTest {
     private static final int RUNS = 150;
-    private static final int CALLS = 512;
+    /** One less than an object is used for: the last one is digest(). */
+    private static final int CALLS = 511;
 
     private static long seed;
 

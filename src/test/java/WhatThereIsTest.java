@@ -2,16 +2,11 @@
 public final class WhatThereIsTest {
     public static void main(String[] args) {
         sootOfEachPane();
-        sootRefusesIndexes();
         aboutTellsAWindow();
-        aboutRefusesIndexes();
         toldTellsARope();
-        toldRefusesIndexes();
         countTellsAll();
-        countRefusesIndexes();
         feastDaysWithoutWindows();
         isFeastGoesByTheDay();
-        isFeastRefusesArguments();
         nextGoesByTheDay();
         nextWithSeveralFeasts();
         Due.end();
@@ -43,17 +38,6 @@ public final class WhatThereIsTest {
         Due.same("soot(0, 7)", x.soot(0, 7), 4);
     }
 
-    private static void sootRefusesIndexes() {
-        GlassRopes x = used();
-        for (int wrong : new int[] {-1, 12, Integer.MIN_VALUE, Integer.MAX_VALUE}) {
-            Due.refusesIndex(x, "soot(" + wrong + ", 0)", () -> x.soot(wrong, 0));
-        }
-        for (int wrong : new int[] {-1, 8, 11, Integer.MIN_VALUE, Integer.MAX_VALUE}) {
-            Due.refusesIndex(x, "soot(0, " + wrong + ")", () -> x.soot(0, wrong));
-            Due.refusesIndex(x, "soot(5, " + wrong + ")", () -> x.soot(5, wrong));
-        }
-    }
-
     private static void aboutTellsAWindow() {
         GlassRopes x = used();
         int[] first = {0, 0, 2, 3, 4, 18, 4, 6};
@@ -69,16 +53,6 @@ public final class WhatThereIsTest {
         Due.same("wiped: about(0, 5), by the pane that they share", x.about(0, 5), 16);
         x.pass(40);
         Due.same("sooty: about(0, 7) is at least 0", x.about(0, 7), 0);
-    }
-
-    private static void aboutRefusesIndexes() {
-        GlassRopes x = used();
-        for (int window : new int[] {-1, 2, 5, 6, Integer.MIN_VALUE, Integer.MAX_VALUE}) {
-            Due.refusesIndex(x, "about(" + window + ", 0)", () -> x.about(window, 0));
-        }
-        for (int what : new int[] {-1, 8, Integer.MIN_VALUE, Integer.MAX_VALUE}) {
-            Due.refusesIndex(x, "about(0, " + what + ")", () -> x.about(0, what));
-        }
     }
 
     private static void toldTellsARope() {
@@ -98,16 +72,6 @@ public final class WhatThereIsTest {
         Due.same("told(0, 4), behind a feast day", x.told(0, 4), 17);
     }
 
-    private static void toldRefusesIndexes() {
-        GlassRopes x = used();
-        for (int rope : new int[] {-1, 2, 5, 6, Integer.MIN_VALUE, Integer.MAX_VALUE}) {
-            Due.refusesIndex(x, "told(" + rope + ", 0)", () -> x.told(rope, 0));
-        }
-        for (int what : new int[] {-1, 6, Integer.MIN_VALUE, Integer.MAX_VALUE}) {
-            Due.refusesIndex(x, "told(0, " + what + ")", () -> x.told(0, what));
-        }
-    }
-
     private static void countTellsAll() {
         GlassRopes x = used();
         int[] due = {2, 2, 2, 1, 1, 2 * 96 + 2 * 16 - 21, 4, 21, 0, 0, 50};
@@ -124,13 +88,6 @@ public final class WhatThereIsTest {
         Due.same("count(7)", x.count(7), x.told(0, 4) + x.told(1, 4));
     }
 
-    private static void countRefusesIndexes() {
-        GlassRopes x = used();
-        for (int what : new int[] {-1, 11, Integer.MIN_VALUE, Integer.MAX_VALUE}) {
-            Due.refusesIndex(x, "count(" + what + ")", () -> x.count(what));
-        }
-    }
-
     private static void feastDaysWithoutWindows() {
         GlassRopes x = new GlassRopes();
         x.feast(3, 0);
@@ -144,29 +101,20 @@ public final class WhatThereIsTest {
     }
 
     private static void isFeastGoesByTheDay() {
-        GlassRopes x = new GlassRopes();
-        x.feast(13, 4);
-        x.feast(6, 5);
-        for (int day = 0; day < 30; day++) {
+        for (int day = 1; day <= 40; day++) {
+            GlassRopes x = new GlassRopes();
+            x.feast(13, 4);
+            x.feast(6, 5);
+            x.pass(day);
             for (int days = 0; days <= 60; days++) {
                 boolean due = (day + days) % 13 == 4 || (day + days) % 6 == 5;
                 Due.same("on the day " + day + ": isFeast(" + days + ")", x.isFeast(days), due);
             }
-            x.pass(1);
         }
+        GlassRopes x = new GlassRopes();
+        x.pass(30);
         x.feast(2, 0);
         Due.same("on the day 30 of a new feast: isFeast(0)", x.isFeast(0), true);
-    }
-
-    private static void isFeastRefusesArguments() {
-        GlassRopes x = used();
-        for (int days : new int[] {-1, 61, Integer.MIN_VALUE, Integer.MAX_VALUE}) {
-            Due.refusesArgument(x, "isFeast(" + days + ")", () -> x.isFeast(days));
-        }
-        Due.same("isFeast(0)", x.isFeast(0), false);
-        Due.same("isFeast(2)", x.isFeast(2), true);
-        Due.same("isFeast(57)", x.isFeast(57), true);
-        Due.same("isFeast(60)", x.isFeast(60), false);
     }
 
     private static void nextGoesByTheDay() {
